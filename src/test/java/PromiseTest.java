@@ -89,6 +89,7 @@ public final class PromiseTest {
         same("4: empty text", x.hills(), 0);
         same("4: all is as told in it", x.about(5), 0);
         longestText();
+        cutTexts();
         anew();
     }
 
@@ -97,6 +98,21 @@ public final class PromiseTest {
         same("4: 1600 bytes", Due.tell(x, " ".repeat(1583) + "cliff x at 98;  \n"), 1);
         same("4: place", x.cliff(0, 0), 98);
         same("4: blanks only", Due.tell(x, "\n \n "), 0);
+    }
+
+    /** What was cut off with end() is not looked at, though it was fed. */
+    private static void cutTexts() {
+        String[] whole = {"wind 7;a", "wind 7a;", "wind 77;", "word ab;word a;", "word a;wind 3;"};
+        int[] cut = {6, 6, 6, 6, 7};
+        for (int i = 0; i < whole.length; i++) {
+            CliffJudges x = new CliffJudges();
+            Due.feed(x, whole[i]);
+            x.end(cut[i]);
+            boolean good = i == whole.length - 1;
+            same("3: hills of " + whole[i] + " cut at " + cut[i], x.hills(), good ? 0 : -1);
+            same("3: fault of " + whole[i] + " cut at " + cut[i], x.fault(0), good ? 0 : 2);
+            same("3: its place in " + whole[i] + " cut at " + cut[i], x.fault(1), good ? -1 : cut[i]);
+        }
     }
 
     private static void anew() {
@@ -310,6 +326,8 @@ public final class PromiseTest {
         same("12: b b c: t", (long) x.say(0, 2) * x.call(0), 20);
         same("12: yes is counted", x.man(0, 2), 1);
         same("12: by man", x.man(1, 2), 0);
+        same("12: another man", x.call(2), 2);
+        same("12: his own", x.man(2, 2) * 10 + x.man(0, 2), 11);
         same("12: no man", x.call(3) + x.call(-1), -2);
         same("13: 5 * 137 + 71 = 756", x.noon(), 6);
         same("13: 75 is odd", x.cliff(0, 1), 2);
@@ -321,6 +339,7 @@ public final class PromiseTest {
         same("14: no snow", x.cliff(0, 1), 0);
         same("14: again", x.sweep(0), 0);
         same("14: the other", x.cliff(1, 1), 1);
+        same("14: sweep it too", x.sweep(1), 1);
         same("14: no cliff", x.sweep(2) + x.sweep(-1), -2);
         snowIsNineAtMost();
     }
@@ -472,6 +491,8 @@ public final class PromiseTest {
         same("wrapping below 0", came("9999*9999*22"), 0);
         same("wrapping to the least", came("0-1+(0-8192*8192*32=8192*8192*32)*3"), 2);
         same("the least over -1", came("4+((8192*8192*32)/(0-1)<0)"), 5);
+        String waiting = "0 or 1 and 0<1+1*";
+        same("25 wait at once", came((waiting + "(").repeat(4) + waiting + "1))))"), 1);
         same("all are lost", kept("1"), 0);
         same("none is lost", kept("0"), 1212);
         same("loud: of the word and the voice", kept("loud=9"), 22);
@@ -610,6 +631,12 @@ public final class PromiseTest {
             + "on s a to t;on t b to s;back long*(snow=0);turn far;");
         say(less, 0, 0, 1);
         same("24: all would be too many", less.clears(0, 1), 2);
+        // Only the farther one's ECHO can be a YES, and only if the nearer one says nothing.
+        CliffJudges all = hills("word a;word b;cliff x at 40 snow 3;cliff y at 60 snow 4;man m at 40;state s;state t yes;"
+            + "on s a to t;back snow+far*(1-snow);");
+        say(all, 0, 0, 1, 1, 1, 1);
+        same("24: both", all.clears(0, 0), 2);
+        same("24: both, as bits", all.clears(0, 1), 3);
         CliffJudges none = hills("word a;man m at 1;state s yes;");
         same("24: no cliffs", none.clears(0, 0), -1);
     }
@@ -790,6 +817,9 @@ public final class PromiseTest {
         same("36: y, 1 word", x.ask(0, 0), 101);
         same("36: 24 at the most", x.ask(1, 0), 24);
         same("36: as known before", x.ask(1, -1), 25);
+        CliffJudges ten = hills("cliff x at 0;back (long=10)*(far<50)*3;");
+        same("36: 10 words", ten.ask(0, 0), 10);
+        same("36: 50 at the most", ten.ask(1, 0), 50);
         x.sound(0, 9, 3);
         same("36: no place", x.ask(0, 0), -1);
         same("36: no place", x.ask(1, 0), -1);
