@@ -36,25 +36,19 @@ public final class PromiseTest {
     }
 
     private static CliffJudges hills(String text) {
-        CliffJudges x = new CliffJudges();
-        int cliffs = Due.tell(x, text);
-        same("fault of " + text, x.fault(0), 0);
-        same("hills of " + text, cliffs, x.about(0));
-        return x;
+        return DUE.hills(text);
     }
 
     private static void say(CliffJudges x, int cry, int... words) {
-        for (int word : words) {
-            x.say(cry, word);
-        }
+        Due.say(x, cry, words);
     }
 
     private static void lie(String what, CliffJudges x, int... due) {
-        same(what + ": how many lie", x.about(16), due.length);
-        for (int i = 0; i < due.length; i++) {
-            same(what + ": lies " + i, x.lies(i), due[i]);
-        }
-        same(what + ": lies behind", x.lies(due.length), -1);
+        DUE.lie(what, x, due);
+    }
+
+    private static String many(int n, String line) {
+        return Due.many(n, line);
     }
 
     /** Promises 1 to 4: a new object, feed, end, hills. */
@@ -219,14 +213,6 @@ public final class PromiseTest {
         fault("back 1 or;", 2, 9);
         fault("back 1&1;", 1, 6);
         fault("back not not 1=1 and(far+2)*3>long or chance%loud/behind-snow<blows;", 0, -1);
-    }
-
-    private static String many(int n, String line) {
-        StringBuilder all = new StringBuilder();
-        for (int i = 0; i < n; i++) {
-            all.append(line.replace('#', (char) ('a' + i)));
-        }
-        return all.toString();
     }
 
     private static void limitsOfTexts() {
