@@ -103,6 +103,13 @@ public final class ActEdgesTest {
         Due.feed(x, "draw 8;");
         DUE.same("3: what comes then comes behind n", x.hills(), 0);
         DUE.same("3: what was behind is gone", x.about(5) * 10 + x.about(6), 38);
+        String[] cut = {"word a|b;", "wind 7|7;", "wind 7|a;", "wind| 7;", "wind 7|;"};
+        for (String text : cut) {
+            Due.feed(x, text.replace("|", ""));
+            x.end(text.indexOf('|'));
+            DUE.same("3: what was cut off is not read", x.hills(), -1);
+            DUE.same("3: its FAULT is at the end", x.fault(0) * 100 + x.fault(1), 200 + text.indexOf('|'));
+        }
     }
 
     /** Promise 2: "of each number the highest first"; bytes of 128 and more are bytes too. */

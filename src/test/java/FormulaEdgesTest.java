@@ -67,6 +67,18 @@ public final class FormulaEdgesTest {
         DUE.same("behind a FAULT it does too", Due.tell(x, thirty + "lost " + ones(31) + ";"), -1);
         DUE.same("60 again", Due.tell(x, thirty + "lost " + ones(30) + ";"), 0);
         DUE.same("units of it", x.about(15), 60);
+        toldAgainAndAgain();
+    }
+
+    /** However many texts were told: what comes of an e is what the latest text says. */
+    private static void toldAgainAndAgain() {
+        CliffJudges x = new CliffJudges();
+        for (int text = 0; text < 24; text++) {
+            String told = "word a;cliff x at 1;man m at 1;back " + ones(29) + "-" + (29 - text % 5) + ";lost " + ones(29) + "-29;";
+            DUE.same("text " + text, Due.tell(x, told), 1);
+            Due.say(x, 0, 0, 0, 0, 0);
+            DUE.same("the e of text " + text, x.echo(0, 0), text % 5);
+        }
     }
 
     private static void unitsThatAreCounted() {
@@ -239,10 +251,15 @@ public final class FormulaEdgesTest {
         CliffJudges x = DUE.hills("word a;cliff x at 9;man m at 0;state s yes;back chance;");
         x.say(0, 0);
         DUE.same("chance in back is 0 by LUCK too", x.luck(0), 0);
-        // A WORD's facts must not stay there for the next CLIFF's back and turn.
-        CliffJudges two = DUE.hills("word a loud 9;cliff x at 1;cliff y at 2;man m at 0 voice 9;back long;lost loud+behind=0;turn loud+behind;");
-        Due.say(two, 0, 0, 0, 0);
-        DUE.same("the second CLIFF's facts", two.answers(0, 0), 3);
+        // A WORD's facts must not stay there for the back and turn of the next call.
+        CliffJudges again = DUE.hills("word a loud 9;word b loud 9;cliff x at 1;man m at 0 voice 9;state s yes;back 2-loud-behind-chance;"
+            + "lost loud+behind+chance=0;turn loud+behind+chance;");
+        Due.say(again, 0, 0, 0, 1);
+        for (int i = 0; i < 3; i++) {
+            DUE.same("each call's own facts", again.echo(0, 0), 2);
+            DUE.lie("each call's own facts", again, 0, 1);
+            DUE.same("each chance's own facts", again.luck(0), 100);
+        }
     }
 
     private static int came(String back, int words) {

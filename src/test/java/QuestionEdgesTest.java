@@ -1,3 +1,4 @@
+import java.util.ArrayList;
 import java.util.Arrays;
 import java.util.List;
 import java.util.function.IntSupplier;
@@ -10,12 +11,27 @@ public final class QuestionEdgesTest {
     private static final String LAW = ONE_LAW + "on t b to s;";
     private static final String EIGHT = Due.many(8, "word #;");
 
+    private interface Asking {
+        int of(CliffJudges x, int man);
+    }
+
+    /** A question, its answer where nothing comes back, and where a comes from the only CLIFF and is a YES. */
+    private record Question(String name, Asking asking, int none, int all) { }
+
+    private static final List<Question> QUESTIONS = List.of(new Question("echo", (x, man) -> x.echo(man, 0), 0, 1),
+        new Question("answers 0", (x, man) -> x.answers(man, 0), 0, 1), new Question("answers 1", (x, man) -> x.answers(man, 1), 0, 1),
+        new Question("binds", CliffJudges::binds, -1, 0), new Question("pardon", CliffJudges::pardon, -1, 1),
+        new Question("pardons", (x, man) -> x.pardons(man, 2), 0, 1), new Question("ahead", (x, man) -> x.ahead(man, 0, 1), 0, 1),
+        new Question("clears", (x, man) -> x.clears(man, 0), -1, 0), new Question("rhyme", CliffJudges::rhyme, -1, 0),
+        new Question("luck", CliffJudges::luck, 0, 100), new Question("more", CliffJudges::more, 0, 1), new Question("call", CliffJudges::call, 0, 2));
+
     public static void main(String[] args) {
         echoes();
         answering();
         binding();
         lengthsOfPardons();
         pardonsByAll();
+        pardonsOfTurnedAndLost();
         pardonsThatCannotBe();
         howManyPardons();
         lengthsAhead();
@@ -28,6 +44,7 @@ public final class QuestionEdgesTest {
         lengthsOfRhymes();
         placesOfRhymes();
         rhymesThatCannotBe();
+        rhymesByTheOneThatBinds();
         joining();
         whoBindsTheJoined();
         chances();
@@ -37,6 +54,9 @@ public final class QuestionEdgesTest {
         waysThatCannotBe();
         whatLies();
         whatLiesBehindEachCall();
+        byWhatIsNow();
+        byWhoCalls();
+        inEachOrder();
         DUE.close();
     }
 
@@ -163,6 +183,24 @@ public final class QuestionEdgesTest {
         DUE.same("21: turned about from one", three.pardons(0, 2), 1);
     }
 
+    private static void pardonsOfTurnedAndLost() {
+        // Turned about, c b a leads on to the sixth STATE: a b c must be said.
+        CliffJudges turned = DUE.hills(EIGHT + "cliff x at 1;man m at 1;" + Due.many(5, "state #;") + "state f yes;on a c to d;on d b to e;on e a to f;"
+            + "back long;turn 1;");
+        DUE.same("20: a b c", turned.pardon(0), 3);
+        DUE.lie("20: a b c", turned, 0, 1, 2);
+        DUE.same("21: a b c alone", turned.pardons(0, 3), 1);
+        // Of 4 one more, which must lead nowhere, at one of four places.
+        DUE.same("21: of 4", turned.pardons(0, 4), 8 + 7 + 7 + 7);
+        // What is said last is lost: what came ahead of it is the row.
+        CliffJudges lost = DUE.hills("word a;word b;cliff x at 1;man m at 1;" + LAW + "back long;lost behind=0;");
+        DUE.same("20: one that comes, one that is lost", lost.pardon(0), 2);
+        DUE.lie("20: a a", lost, 0, 0);
+        DUE.same("21: a with any behind it", lost.pardons(0, 1) * 10 + lost.pardons(0, 2), 2);
+        CliffJudges both = DUE.hills("word a;word b;cliff x at 1;man m at 1;" + LAW + "back long;lost behind=0;turn 1;");
+        DUE.same("21: turned about, the first must be a", both.pardons(0, 3), 4);
+    }
+
     /** "NONE if there is none, there are no CLIFFS, or no such MAN". */
     private static void pardonsThatCannotBe() {
         CliffJudges x = DUE.hills("word a;cliff x at 1;man m at 1;man o at 2;state s yes;");
@@ -233,6 +271,10 @@ public final class QuestionEdgesTest {
         Due.say(lost, 1, 2, 0);
         DUE.same("22: acb, abc, bac", lost.ahead(0, 0, 3), 3);
         DUE.lie("22: the first", lost, 0, 1, 2);
+        CliffJudges few = DUE.hills("word a;word b;word c;cliff x at 1;man m at 1;back 1;");
+        few.say(1, 2);
+        DUE.same("22: of three WORDS, whatever was ahead", few.ahead(0, 0, 3), 9);
+        DUE.lie("22: the first", few, 0, 0, 2);
         CliffJudges noWords = DUE.hills("cliff x at 1;man m at 1;");
         DUE.same("22: no WORDS", noWords.ahead(0, 0, 1), 0);
     }
@@ -377,6 +419,10 @@ public final class QuestionEdgesTest {
         Due.say(order, 0, 7);
         DUE.same("25: one", order.rhyme(0), 1);
         DUE.lie("25: with the one that is there", order, 7);
+        CliffJudges again = DUE.hills("word a;word b;word c;cliff x at 1;man m at 1;state s;state t;state v yes;on s c to t;on t c to v;back long;");
+        Due.say(again, 0, 0, 0);
+        DUE.same("25: two", again.rhyme(0), 2);
+        DUE.lie("25: the last of all WORDS for both", again, 2, 12);
         CliffJudges three = DUE.hills(EIGHT + "cliff x at 1;man m at 1;state s;state t;state u;state v yes;on s h to t;on t h to u;on u h to v;back 3;");
         Due.say(three, 0, 0, 0, 0, 0, 0, 0, 0, 0, 0, 0);
         DUE.same("25: the last three of ten", three.rhyme(0), 3);
@@ -406,6 +452,41 @@ public final class QuestionEdgesTest {
         Due.say(other, 0, 0, 0);
         DUE.same("25: one of them lost", other.rhyme(0), 1);
         DUE.lie("25: the first", other, 1);
+    }
+
+    /** "by which he has VERDICT YES": the nearest CLIFF that ANSWERS then BINDS, whichever that is. */
+    private static void rhymesByTheOneThatBinds() {
+        // From w, 5 far, all comes; from x, 1 far, only what is loud.
+        String told = "word c loud 9;word a;word b;cliff w at 15;cliff x at 11;man m at 10;" + LAW + "back long;lost far<2 and loud<9;";
+        CliffJudges x = DUE.hills(told);
+        Due.say(x, 0, 0, 1);
+        DUE.same("25: x must be silent", x.rhyme(0), 1);
+        DUE.lie("25: a a", x, 1);
+        x.unsay(0);
+        DUE.same("25: x is silent, w says a", x.rhyme(0), 1);
+        DUE.lie("25: a", x, 1);
+        x.say(0, 2);
+        DUE.same("25: both must be other ones", x.rhyme(0), 2);
+        DUE.lie("25: a a", x, 1, 11);
+        x.unsay(0);
+        x.unsay(0);
+        x.say(0, 2);
+        DUE.same("25: c is no YES, a is one", x.rhyme(0), 1);
+        DUE.lie("25: a", x, 1);
+        // Three CLIFFS, the nearest told last: from it the CRY comes turned about.
+        CliffJudges three = DUE.hills("word a;word b;cliff w at 30;cliff x at 20;cliff y at 11;man m at 10;" + LAW + "back long;turn far=1;");
+        Due.say(three, 0, 1, 0);
+        DUE.same("25: from y a b comes", three.rhyme(0), 1);
+        DUE.lie("25: a a", three, 0);
+        // Of those that are like near the first BINDS: from it b a comes, turned about.
+        CliffJudges like = DUE.hills("word a;word b;cliff w at 9;cliff x at 11 snow 1;man m at 10;" + LAW + "back long;turn snow=0;");
+        Due.say(like, 0, 0, 1);
+        DUE.same("25: w binds", like.rhyme(0), 0);
+        // a is lost from the only CLIFF: a WORD that comes must be found behind it.
+        CliffJudges silent = DUE.hills("word a;word c loud 3;word b;cliff x at 1;man m at 1;state s;state t yes;on s c to t;back long;lost loud=0;");
+        silent.say(0, 2);
+        DUE.same("25: what is lost is no YES", silent.rhyme(0), 1);
+        DUE.lie("25: c", silent, 1);
     }
 
     /** Promise 26: "2: the VERDICT is YES, 1: not, 0: none; NONE if one can't be (the same one twice, too)". */
@@ -522,6 +603,9 @@ public final class QuestionEdgesTest {
         CliffJudges first = DUE.hills(EIGHT + Due.many(4, "state #;") + "on a b to c;on a h to b;on b a to d;on c h to d;on c g to d;");
         DUE.same("30: of like ones the first", first.way(3), 2);
         DUE.lie("30: of like ones the first", first, 1, 6);
+        CliffJudges each = DUE.hills("word a;word b;state s;state t;state u;on s a to t;on s b to t;on t a to u;on t b to u;");
+        DUE.same("30: by each WORD", each.way(2), 2);
+        DUE.lie("30: by the first WORD", each, 0, 0);
         CliffJudges around = DUE.hills("word a;" + Due.many(2, "state #;") + "on a a to b;on b a to a;");
         DUE.same("30: to STATE 0 no WORD", around.way(0), 0);
     }
@@ -530,6 +614,7 @@ public final class QuestionEdgesTest {
     private static void waysThatCannotBe() {
         CliffJudges x = DUE.hills("word a;state s;state t;on t a to s;");
         DUE.same("30: there is none", x.way(1), -1);
+        DUE.lie("30: behind NONE nothing", x);
         DUE.outside("30: no STATE", x::way, 0, 1);
         CliffJudges full = DUE.hills("word a;" + Due.many(6, "state #;") + "on a a to f;");
         DUE.same("30: the last STATE", full.way(5), 1);
@@ -584,5 +669,84 @@ public final class QuestionEdgesTest {
         DUE.lie("4: all stays behind a FAULT", x, 1, 0);
         DUE.same("4: good HILLS", x.hills(), 0);
         DUE.lie("4: nothing lies there then", x);
+    }
+
+    /** "By what is now": the wind and the snow of now, not as told, nor as they were when something else was asked. */
+    private static void byWhatIsNow() {
+        List<Question> all = new ArrayList<>(QUESTIONS);
+        all.add(new Question("yeas", (x, man) -> x.yeas(0, 0), 0, 100));
+        all.add(new Question("joined", (x, man) -> x.joined(man, 1), 0, 2));
+        all.add(new Question("joined, the other", (x, man) -> x.joined(1, man), 0, 2));
+        for (Question question : all) {
+            for (String back : new String[] {"blows=0", "snow=1", "blows=0 and snow=1"}) {
+                // The wind is 3 as told, 0 behind a NOON (460), which brings snow.
+                CliffJudges x = DUE.hills("word a;cliff x at 1;man m at 1;man o at 2;" + ONE_LAW + "back " + back + ";wind 3;draw 397;");
+                x.say(0, 0);
+                x.say(1, 0);
+                DUE.same(question.name + ", as told, " + back, question.asking.of(x, 0), question.none);
+                x.noon();
+                DUE.same(question.name + ", behind a NOON, " + back, question.asking.of(x, 0), question.all);
+                x.sweep(0);
+                boolean bySnow = back.endsWith("snow=1");
+                DUE.same(question.name + ", swept, " + back, question.asking.of(x, 0), bySnow ? question.none : question.all);
+            }
+        }
+        CliffJudges winds = DUE.hills("word a;cliff x at 1;man m at 1;" + ONE_LAW + "back snow=1;wind 3;draw 397;");
+        winds.say(0, 0);
+        DUE.same("28: as told", winds.winds(0), 0);
+        winds.noon();
+        DUE.same("28: by the snow of now", winds.winds(0), 1023);
+    }
+
+    /** From the place and by the voice of the MAN who is asked for, whoever was asked for before. */
+    private static void byWhoCalls() {
+        for (Question question : QUESTIONS) {
+            CliffJudges x = DUE.hills("word a;cliff x at 10;man m at 10 voice 9;man o at 11;man p at 11 voice 9;" + ONE_LAW + "lost far=0 or loud<9;");
+            x.say(0, 0);
+            x.say(1, 0);
+            for (int man : new int[] {0, 2, 1, 2, 0, 1}) {
+                DUE.same(question.name + " of MAN " + man, question.asking.of(x, man), man == 2 ? question.all : question.none);
+            }
+            DUE.same("28: winds", x.winds(2) * 10 + x.winds(0), 10230);
+            DUE.same("26: the first's comes", x.joined(2, 0), 2);
+            DUE.same("26: the other's comes", x.joined(0, 2), 2);
+            DUE.same("26: neither's comes", x.joined(0, 1), 0);
+        }
+    }
+
+    /** Four CLIFFS at four places, in each order: the nearest one that ANSWERS BINDS, of like ones the first. */
+    private static void inEachOrder() {
+        int[][] sets = {{51, 52, 53, 54}, {49, 51, 48, 52}};
+        for (int order = 0; order < 256; order++) {
+            int[] of = {order & 3, order >> 2 & 3, order >> 4 & 3, order >> 6};
+            if ((1 << of[0] | 1 << of[1] | 1 << of[2] | 1 << of[3]) == 15) {
+                for (int[] set : sets) {
+                    for (int silent = 0; silent < 4; silent++) {
+                        bindsIn(new int[] {set[of[0]], set[of[1]], set[of[2]], set[of[3]]}, silent);
+                    }
+                }
+            }
+        }
+    }
+
+    /** CLIFFS within so far are silent; the CRY is a YES from the one that comes turned about alone. */
+    private static void bindsIn(int[] places, int silent) {
+        int bound = -1;
+        for (int cliff = 0; cliff < 4; cliff++) {
+            int far = Math.abs(places[cliff] - 50);
+            if (far > silent && (bound < 0 || far < Math.abs(places[bound] - 50))) {
+                bound = cliff;
+            }
+        }
+        for (int turned = 0; turned < 4; turned++) {
+            CliffJudges x = DUE.hills("word a;word b;cliff w at " + places[0] + ";cliff x at " + places[1] + " snow 1;cliff y at " + places[2]
+                + " snow 2;cliff z at " + places[3] + " snow 3;man m at 50;man o at 49;" + LAW + "back long*(far>" + silent + ");turn snow=" + turned + ";");
+            Due.say(x, 0, 0, 1);
+            boolean yes = bound == turned;
+            DUE.same("19: binds", x.binds(0), bound);
+            DUE.same("25: rhyme", x.rhyme(0), bound < 0 ? -1 : yes ? 0 : 1);
+            DUE.lie("25: rhyme", x, bound < 0 || yes ? new int[0] : new int[] {10});
+            DUE.same("12: call", x.call(0), bound < 0 ? 0 : yes ? 2 : 1);
+        }
     }
 }

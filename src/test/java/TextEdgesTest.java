@@ -259,6 +259,7 @@ public final class TextEdgesTest {
     private static void numbersNotTold() {
         String all = "word a loud 9;cliff c at 9 snow 9;man m at 9 voice 9;state s yes;state t;on s a to t;back 9;lost loud<9;turn 1;wind 9;draw 9;";
         CliffJudges x = DUE.hills(all);
+        DUE.same("told twice", Due.tell(x, all), 1);
         DUE.same("told anew", Due.tell(x, "word a;word b;cliff c at 9;man m at 9;state s;state t;"), 1);
         DUE.same("snow", x.cliff(0, 1), 0);
         DUE.same("voice", x.man(0, 1), 0);
@@ -266,10 +267,14 @@ public final class TextEdgesTest {
         DUE.same("draw", x.about(6), 0);
         DUE.same("on", x.leads(0, 0) * 10 + x.about(4), 0);
         DUE.same("units", x.about(15), 0);
-        Due.say(x, 0, 0, 1, 0, 1);
+        Due.say(x, 0, 1, 0, 0, 1);
         DUE.same("back, lost", x.echo(0, 0), 3);
-        DUE.lie("turn", x, 1, 0, 1);
+        DUE.lie("turn", x, 0, 0, 1);
         DUE.same("yes", x.call(0), 1);
+        DUE.same("one e in place of another", Due.tell(x, "word a;word b;cliff c at 9;man m at 9;back 2;turn 0;"), 1);
+        Due.say(x, 0, 1, 0, 1);
+        DUE.same("back of the new text", x.echo(0, 0), 2);
+        DUE.lie("turn of the new text", x, 0, 1);
         DUE.same("told again with lost", Due.tell(x, "word a;cliff c at 9;man m at 9;lost loud;"), 1);
         Due.say(x, 0, 0);
         DUE.same("loud is 0 if it is not told", x.echo(0, 0), 1);
