@@ -329,8 +329,9 @@ public final class ActEdgesTest {
     /** "one more snow on all CLIFFS (9 at most)". */
     private static void snowOfNoons() {
         // 397 becomes 460, and 46 is even.
-        CliffJudges x = DUE.hills("cliff a at 1 snow 7;cliff b at 2 snow 8;cliff c at 3 snow 9;cliff d at 4;draw 397;");
+        CliffJudges x = DUE.hills("cliff a at 1 snow 7;cliff b at 2 snow 8;cliff c at 3 snow 9;cliff d at 4;man m at 1;draw 397;");
         x.noon();
+        DUE.same("13: nobody called", x.man(0, 2) + x.man(0, 3) + x.man(0, 4), 0);
         DUE.same("13: 8, 9, 9, 1", x.cliff(0, 1) * 1000 + x.cliff(1, 1) * 100 + x.cliff(2, 1) * 10 + x.cliff(3, 1), 8991);
         x.undo();
         DUE.same("13: as it was", x.cliff(0, 1) * 1000 + x.cliff(1, 1) * 100 + x.cliff(2, 1) * 10 + x.cliff(3, 1), 7890);
